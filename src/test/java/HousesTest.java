@@ -7,6 +7,7 @@ public final class HousesTest {
         away();
         dislikes();
         placesByStock();
+        sixPlaces();
         oldestLotFirst();
         turns();
         spoiling();
@@ -121,6 +122,20 @@ public final class HousesTest {
         CHECK.same("P17 in boxes", x.told(1, 9), 1);
         CHECK.same("P20 left", x.lot(3, 5), 0);
         CHECK.same("P20 were", x.lot(3, 4), 1);
+    }
+
+    private static void sixPlaces() {
+        GardenBoxes x = withBought(7, 12);
+        x.house(6, 0);
+        for (int crop = 0; crop < 7; crop++) {
+            x.buy(crop, 1 + crop);
+        }
+        CHECK.same("P13 no hole", x.week(), 0);
+        for (int place = 0; place < 6; place++) {
+            CHECK.same("P21 place " + place, x.box(0, place), 6 - place);
+            CHECK.same("P22 place " + place, x.why(0, place), -1);
+            CHECK.same("P23 place " + place, x.lead(0, place), 6 - place);
+        }
     }
 
     private static void oldestLotFirst() {

@@ -15,6 +15,7 @@ public final class LinesTest {
         giveLines();
         barLines();
         valuesWithinABox();
+        manyTexts();
         CHECK.finish();
     }
 
@@ -93,6 +94,9 @@ public final class LinesTest {
         wrong("give c0x;", 1, 7);
         wrong("give c0 whenweek<1;", 1, 8);
         wrong("giv c0;", 1, 0);
+        wrong("live c0;", 1, 0);
+        wrong("car c0;", 1, 0);
+        wrong("give c0 when had c0<1 end week<1;", 1, 22);
         wrong("gives c0;", 1, 0);
         wrong("give c0 when week<1x;", 1, 19);
         wrong("give c0 when week<-1;", 1, 18);
@@ -119,6 +123,8 @@ public final class LinesTest {
         wrong("give c0 when week c0<1;", 1, 18);
         wrong("give c0 when size==1;", 1, 18);
         wrong("give c0 when stock<1;", 1, 18);
+        wrong("give c0 when stock;", 1, 18);
+        wrong("give c0 when had c0;", 1, 19);
         wrong("give c0 when had 0<1;", 1, 17);
         wrong("give c0 when c0<1;", 1, 13);
         wrong("give c0 when 1<2;", 1, 13);
@@ -144,6 +150,7 @@ public final class LinesTest {
         wrong("give c0 when not(not(not(not week<1)));", 1, 25);
         wrong("give c0 when ((((((", 1, 19);
         wrong("give c0 when ((((((;", 1, 19);
+        wrong("give c0 when (((((())))));", 1, 19);
         wrong("give c0 when (((((((", 1, 19);
         wrong("give c0 when (((((week<1 or ((((((", 1, 29);
         fine("give c0 when (((((week<1)))))and(((((week<1)))));", 1);
@@ -272,6 +279,18 @@ public final class LinesTest {
         CHECK.same("4 a hole", x.box(0, 2), -1);
         CHECK.same("4 not barred for that house", x.box(1, 0), 0);
         CHECK.same("4 barred for that house", x.box(1, 1), 2);
+    }
+
+    private static void manyTexts() {
+        GardenBoxes x = garden();
+        for (int i = 0; i < 12; i++) {
+            String text = "bar c1;give c0 when week<1 and size=3 and not week=1 and not size<3 and had c0=" + i
+                + " or stock c0=" + i + ";give c0 when had c0=99 and stock c0=0 and (week=0 or week=1);";
+            CHECK.same("P10 text " + i, Check.tell(x, text), 3);
+            CHECK.same("P26 text " + i + " line 0", x.holds(0, 0), 1);
+            CHECK.same("P26 text " + i + " line 1", x.holds(1, 0), i == 0 ? 1 : 0);
+            CHECK.same("P26 text " + i + " line 2", x.holds(2, 0), 1);
+        }
     }
 
     private static void valuesWithinABox() {

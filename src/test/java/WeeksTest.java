@@ -55,11 +55,18 @@ public final class WeeksTest {
         CHECK.refused(x, "P12 below 0", x.warm(2, 27), 3);
         x.cell(2, 1, 801);
         CHECK.refused(x, "P12 above 100", x.warm(2, 0), 3);
+        x.cell(2, 1, 800);
+        x.cell(2, 0, -1);
+        CHECK.refused(x, "P12 the first", x.warm(2, 0), 3);
+        x.cell(2, 0, 0);
+        x.cell(2, 2, 1000);
+        CHECK.refused(x, "P12 the last", x.warm(2, 0), 3);
         x.cell(2, 0, 80);
         CHECK.refused(x, "P12 nothing is told then", x.warm(2, 0), 3);
         CHECK.same("P12 week 0", x.count(8), 0);
-        x.none(2, 1);
+        x.none(2, 2);
         CHECK.done(x, "P12 no number", x.warm(2, 0), 3);
+        CHECK.same("P12 week 1", x.count(9), 100);
     }
 
     private static void meanOfNeighbours() {
@@ -73,17 +80,24 @@ public final class WeeksTest {
         x.none(0, 5);
         x.none(0, 6);
         x.cell(0, 7, 40);
-        x.cell(0, 28, 23);
-        x.none(0, 29);
+        x.cell(0, 26, 23);
+        x.none(0, 27);
+        x.none(0, 28);
+        x.cell(0, 29, 31);
         CHECK.done(x, "P12 with no numbers", x.warm(0, 0), 30);
-        int[] weeks = {0, 1, 2, 3, 4, 5, 6, 7, 28, 29};
-        int[] due = {1, 1, 2, 2, 2, 0, 5, 5, 2, 2};
+        int[] weeks = {0, 1, 2, 3, 4, 5, 6, 7, 26, 27, 28, 29};
+        int[] due = {1, 1, 2, 2, 2, 0, 5, 5, 2, 2, 3, 3};
         for (int i = 0; i < weeks.length; i++) {
             CHECK.same("P27 warmth of week " + weeks[i], x.count(8 + weeks[i]), due[i]);
         }
         x.crop(0, 400, 1, Check.rest(1, 0, 1));
         x.sow(0, 0);
         Check.weeks(x, 8);
+        x.sheet(1, 2, 2);
+        x.cell(1, 0, 47);
+        x.none(1, 1);
+        x.warm(1, 28);
+        CHECK.same("P27 week 29 beside week 28 alone", x.count(8 + 29), 5);
         CHECK.same("2a heat by these", x.bed(0, 2), 1 + 1 + 2 + 2 + 2 + 0 + 5 + 5);
     }
 
@@ -115,43 +129,56 @@ public final class WeeksTest {
         for (int i = 0; i < 5; i++) {
             x.sow(i, i);
         }
-        x.hands(7);
+        x.hands(5);
         Check.tell(x, "give c1 when stock c1<3;bar c0 when had c0<2;");
         return x;
     }
 
-    private static void ahead() {
-        for (int n = 1; n <= 10; n++) {
-            GardenBoxes x = season();
-            int[] foretold = new int[4];
-            for (int what = 0; what < 4; what++) {
-                foretold[what] = x.ahead(n, what);
-            }
-            CHECK.same("P14 nothing changed", x.count(4), 0);
-            CHECK.same("P14 no lot came", x.count(2), 1);
-            int holes = 0;
-            for (int i = 0; i < n; i++) {
-                holes += x.week();
-            }
-            int worth = x.houseTold(0, 3) + x.houseTold(1, 3);
-            int spoilt = 0;
-            int lost = 0;
-            for (int crop = 0; crop < 5; crop++) {
-                spoilt += x.told(crop, 10);
-                lost += x.told(crop, 8);
-            }
-            CHECK.same("P14 holes of " + n, foretold[0], holes);
-            CHECK.same("P14 worth of " + n, foretold[1], worth);
-            CHECK.same("P14 spoilt of " + n, foretold[2], spoilt);
-            CHECK.same("P14 lost of " + n, foretold[3], lost);
+    private static int[] sumsOf(GardenBoxes x) {
+        int[] sums = new int[4];
+        for (int house = 0; house < 2; house++) {
+            sums[0] += x.houseTold(house, 4);
+            sums[1] += x.houseTold(house, 3);
         }
-        GardenBoxes x = season();
-        x.week();
-        x.week();
-        int before = x.houseTold(0, 3) + x.houseTold(1, 3);
-        int next = x.ahead(1, 1);
-        x.week();
-        CHECK.same("P14 the next weeks alone", x.houseTold(0, 3) + x.houseTold(1, 3) - before, next);
+        for (int crop = 0; crop < 5; crop++) {
+            sums[2] += x.told(crop, 10);
+            sums[3] += x.told(crop, 8);
+        }
+        return sums;
+    }
+
+    private static void ahead() {
+        for (int from = 0; from < 12; from += 3) {
+            for (int n = 1; n <= 10; n++) {
+                GardenBoxes x = season();
+                Check.weeks(x, from);
+                String before = portrait(x);
+                int[] foretold = new int[4];
+                for (int what = 0; what < 4; what++) {
+                    foretold[what] = x.ahead(n, what);
+                }
+                CHECK.same("P14 nothing changed", portrait(x).equals(before) ? 1 : 0, 1);
+                int[] then = sumsOf(x);
+                Check.weeks(x, n);
+                int[] now = sumsOf(x);
+                for (int what = 0; what < 4; what++) {
+                    CHECK.same("P14 " + n + " weeks from " + from + " what " + what, foretold[what],
+                        now[what] - then[what]);
+                }
+            }
+        }
+        GardenBoxes x = new GardenBoxes();
+        x.crop(0, 1, 3, Check.rest(2, 0, 4));
+        x.house(2, 0);
+        x.hands(2);
+        x.sow(0, 0);
+        Check.warmAll(x, 1);
+        int[][] due = {{1, 4, 1, 1}, {2, 8, 2, 2}, {4, 8, 2, 2}};
+        for (int n = 1; n <= 3; n++) {
+            for (int what = 0; what < 4; what++) {
+                CHECK.same("P14 by hand, " + n + " weeks, what " + what, x.ahead(n, what), due[n - 1][what]);
+            }
+        }
     }
 
     private static void aheadToTheEnd() {
@@ -209,9 +236,11 @@ public final class WeeksTest {
         x.away(0, 1023);
         x.dislike(0, 3, true);
         x.sow(7, 0);
+        x.sow(4, 0);
         Check.tell(x, "give c5;give c4;bar c0;");
         Check.warmAll(x, 50);
-        Check.weeks(x, 2);
+        Check.weeks(x, 4);
+        CHECK.same("P18 fresh no more", x.bed(4, 7), 0);
         CHECK.done(x, "P16", x.back(), 3);
         CHECK.same("P16 all is as it was", portrait(x).equals(then) ? 1 : 0, 1);
         x.crop(5, 1, 1, Check.rest(1, 1, 1));
@@ -268,7 +297,7 @@ public final class WeeksTest {
         GardenBoxes x = season();
         x.feed(2, 0);
         x.act(2, 3, 0);
-        int[] due = {5, 2, 1, 2, 0, 7, 2, 10, 1};
+        int[] due = {5, 2, 1, 2, 0, 5, 2, 10, 1};
         for (int what = 0; what < due.length; what++) {
             CHECK.same("P27 count " + what, x.count(what), due[what]);
         }

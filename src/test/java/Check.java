@@ -1,6 +1,14 @@
+import java.util.function.IntUnaryOperator;
+
 /** What the tests of the project share: counting wrong answers, and calls that are made often. */
 final class Check {
+    /** Numbers that lie outside of whatever the document tells. */
+    private static final int[] FAR = {Integer.MIN_VALUE, Integer.MIN_VALUE + 1, -4096, 4096, Integer.MAX_VALUE};
+
     private final String name;
+    private String sentence = "";
+    private int sentences = 0;
+    private int askedBefore = 0;
     private int asked = 0;
     private int wrong = 0;
 
@@ -8,11 +16,27 @@ final class Check {
         this.name = name;
     }
 
+    /** The answers from here on are held against this sentence of a part (1 to 5) or promise (P1 to P34). */
+    void sentence(String where, String words) {
+        endSentence();
+        sentence = where + ": " + words;
+        sentences++;
+        askedBefore = asked;
+    }
+
+    private void endSentence() {
+        if (!sentence.isEmpty() && asked == askedBefore) {
+            wrong++;
+            System.out.println(name + ": no answer is held against \"" + sentence + "\"");
+        }
+    }
+
     void same(String what, long got, long want) {
         asked++;
         if (got != want) {
             wrong++;
-            System.out.println(name + ": " + what + " answered " + got + ", due is " + want);
+            String of = sentence.isEmpty() ? "" : " (\"" + sentence + "\")";
+            System.out.println(name + ": " + what + " answered " + got + ", due is " + want + of);
         }
     }
 
@@ -28,8 +52,48 @@ final class Check {
         same(what + ": status", x.status(), status);
     }
 
+    /** A row of answers to one question, for its number 0, 1 and so on. */
+    void row(String what, IntUnaryOperator question, int... want) {
+        for (int i = 0; i < want.length; i++) {
+            same(what + " " + i, question.applyAsInt(i), want[i]);
+        }
+    }
+
+    /** A question that answers the same for each of these numbers. */
+    void each(String what, int want, IntUnaryOperator question, int... numbers) {
+        for (int number : numbers) {
+            same(what + " " + number, question.applyAsInt(number), want);
+        }
+    }
+
+    /** A question that answers so for these numbers and for those far off. */
+    void outside(String what, int want, IntUnaryOperator question, int... numbers) {
+        each(what, want, question, numbers);
+        each(what, want, question, FAR);
+    }
+
+    /** A call that is refused for each of these numbers; the status before it is always another. */
+    void refusedFor(GardenBoxes x, String what, int status, IntUnaryOperator call, int... numbers) {
+        for (int number : numbers) {
+            if (status == 1) {
+                x.forge(5, 0, 0);
+            } else {
+                x.hands(-1);
+            }
+            refused(x, what + " " + number, call.applyAsInt(number), status);
+        }
+    }
+
+    /** A call that is refused with status 1 for these numbers and for those far off. */
+    void noneSuch(GardenBoxes x, String what, IntUnaryOperator call, int... numbers) {
+        refusedFor(x, what, 1, call, numbers);
+        refusedFor(x, what, 1, call, FAR);
+    }
+
     void finish() {
-        System.out.println(name + ": " + asked + " answers, " + wrong + " wrong");
+        endSentence();
+        String of = sentences == 0 ? "" : " for " + sentences + " sentences";
+        System.out.println(name + ": " + asked + " answers" + of + ", " + wrong + " wrong");
         if (asked == 0 || wrong != 0) {
             System.exit(1);
         }

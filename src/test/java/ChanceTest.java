@@ -17,6 +17,8 @@ public final class ChanceTest {
         "fault", "ahead", "ahead", "told", "bed", "ripens", "lot", "box", "why", "lead", "houseTold", "fair", "holds",
         "count", "trace", "status",
     };
+    private static final int[] FAR = {Integer.MIN_VALUE, Integer.MIN_VALUE + 1, -65536, -256, -100, 31, 32, 33, 64, 100,
+        255, 256, 65536, Integer.MAX_VALUE - 1, Integer.MAX_VALUE};
     private static final Map<String, Method> METHODS = new HashMap<>();
 
     private final Random chance;
@@ -81,8 +83,11 @@ public final class ChanceTest {
         CHECK.same(told.toString(), got, y.call(name, numbers));
     }
 
-    /** Mostly 0 .. most - 1, sometimes just outside. */
+    /** Mostly 0 .. most - 1, sometimes just outside, seldom far off. */
     private int near(int most) {
+        if (chance.nextInt(60) == 0) {
+            return FAR[chance.nextInt(FAR.length)];
+        }
         return chance.nextInt(12) == 0 ? chance.nextInt(most + 4) - 2 : chance.nextInt(most);
     }
 
@@ -113,7 +118,7 @@ public final class ChanceTest {
             case "sow": both(name, near(8), near(8)); break;
             case "buy": both(name, near(8), 1 + near(chance.nextBoolean() ? 5 : 50)); break;
             case "hands": both(name, near(chance.nextBoolean() ? 15 : 200)); break;
-            case "away": both(name, near(10), chance.nextInt(1 << 30) & chance.nextInt()); break;
+            case "away": both(name, near(10), chance.nextInt() >>> chance.nextInt(4) & chance.nextInt()); break;
             case "dislike": both(name, near(10), near(8), chance.nextInt(2)); break;
             case "text": text(); break;
             case "feed": both(name, 1 + near(8), chance.nextLong()); break;

@@ -129,6 +129,19 @@ final class Check {
         x.sheet(3, -1, 0);
     }
 
+    /** Warmths from week w on, in eighths, by sheet 0; those below 0 are no numbers. */
+    static int warmFrom(GardenBoxes x, int w, int... eighths) {
+        x.sheet(0, 2, eighths.length);
+        for (int i = 0; i < eighths.length; i++) {
+            if (eighths[i] < 0) {
+                x.none(0, i);
+            } else {
+                x.cell(0, i, eighths[i]);
+            }
+        }
+        return x.warm(0, w);
+    }
+
     static void weeks(GardenBoxes x, int n) {
         for (int i = 0; i < n; i++) {
             x.week();

@@ -90,7 +90,7 @@ final class Gardens {
             x.crop(5, 1, 1, Check.rest(1, 12, 1 + i));
             x.buy(i, 20 + i);
         }
-        x.crop(0, 1, 9, Check.rest(10, 0, 9));
+        x.crop(0, 1, 9, Check.rest(10, 1, 9));
         for (int i = 0; i < 9; i++) {
             x.house(1, 127);
         }

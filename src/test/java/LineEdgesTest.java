@@ -256,6 +256,8 @@ public final class LineEdgesTest {
         wrong("c0;", 0);
         wrong("when week<1;", 0);
         wrong("give;", 4);
+        wrong("give give c0;", 5);
+        wrong("car c0;", 0);
         wrong("give bar c0;", 5);
         wrong("give c0 c1;", 8);
         wrong("give c0 when;", 12);
@@ -287,6 +289,7 @@ public final class LineEdgesTest {
         CHECK.sentence("4", "NOT: not NOT, ( OR ), or VALUE, then < or = , NUMBER.");
         fine("give c0 when not not week<1;", 1);
         fine("give c0 when (not (week<1 or week<2));", 1);
+        fine("give c0 when not week<1 and not(size=3 or stock c2<4)or had c1=99;bar c2;", 2);
         wrong("give c0 when not;", 16);
         wrong("give c0 when week<1 not week<1;", 20);
         wrong("give c0 when ();", 14);
@@ -294,6 +297,9 @@ public final class LineEdgesTest {
         wrong("give c0 when week<1);", 19);
         wrong("give c0 when (week<1));", 21);
         wrong("give c0 when week;", 17);
+        wrong("give c0 when (size);", 18);
+        wrong("give c0 when week<1 week<2;", 20);
+        wrong("give c0 when (week<);", 19);
         wrong("give c0 when week 1;", 18);
         wrong("give c0 when week<week;", 18);
         wrong("give c0 when week<c0;", 18);
@@ -304,6 +310,11 @@ public final class LineEdgesTest {
     private static void valueForm() {
         CHECK.sentence("4", "VALUE: stock CROP, had CROP, week, size.");
         fine("give c0 when stock c0<1 and had c0<1 and week<1 and size<1;", 1);
+        wrong("give c0 when stock;", 18);
+        wrong("give c0 when (had);", 17);
+        wrong("give c0 when stock and week<1;", 19);
+        wrong("give c0 when stock c0;", 21);
+        wrong("give c0 when had c0 or week<1;", 20);
         wrong("give c0 when stock<1;", 18);
         wrong("give c0 when had<1;", 16);
         wrong("give c0 when stock 0<1;", 19);
@@ -387,6 +398,10 @@ public final class LineEdgesTest {
         wrong("give c0 when not(not(not(not week<1)));", 25);
         wrong("give c0 when ((((((", 19);
         wrong("give c0 when ((((((;", 19);
+        wrong("give c0 when ((((((())))));", 19);
+        wrong("give c0 when (((((()))))) ;", 19);
+        wrong("give c0 when not not not not not not;", 36);
+        wrong("give c0 when not not not not not not or week<1;", 37);
         wrong("give c0 when (((((week<1 or (week<1", 29);
         wrong("give c0 when (((((week<1 and not week<1", 33);
         fine("give c0 when (((((week<1)))))and(((((week<1)))));", 1);

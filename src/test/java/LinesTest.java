@@ -36,7 +36,7 @@ public final class LinesTest {
         }
     }
 
-    /** Each with what it is, where t is true (week=0) and f is false (week=1). */
+    /** Each with what it is, where t is a test that is true and f one that is false. */
     private static void logic() {
         String[] texts = {"t", "f", "not t", "not f", "not not t", "t and f", "t or f", "f or f", "t and t",
             "t or t and f", "(t or t) and f", "f and f or t", "f and (f or t)", "not f and f", "not (f and f)",
@@ -48,13 +48,18 @@ public final class LinesTest {
             true, false, true, true, false, true,
             true, true, true,
             false, true};
-        GardenBoxes x = Gardens.threeAndAHouse();
         for (int i = 0; i < texts.length; i++) {
-            String test = " " + texts[i].replace("(", " ( ").replace(")", " ) ") + " ";
-            String text = test.replace(" t ", " week=0 ").replace(" f ", " week=1 ").replace(" t ", " week=0 ");
-            CHECK.same("P10 " + texts[i], Check.tell(x, "bar c0 when" + text.replace("  ", " ") + ";"), 1);
-            CHECK.same("P26 " + texts[i], x.holds(0, 0), due[i] ? 1 : 0);
+            logic(texts[i], "week=0", "week=1", due[i]);
+            logic(texts[i], "week<1", "week<0", due[i]);
+            logic(texts[i], "size<4", "size=4", due[i]);
         }
+    }
+
+    private static void logic(String test, String isTrue, String isFalse, boolean due) {
+        GardenBoxes x = Gardens.threeAndAHouse();
+        String text = "bar c0 when " + test.replaceAll("\\bt\\b", isTrue).replaceAll("\\bf\\b", isFalse) + ";";
+        CHECK.same("P10 " + text, Check.tell(x, text), 1);
+        CHECK.same("P26 " + text, x.holds(0, 0), due ? 1 : 0);
     }
 
     private static void giveLines() {

@@ -935,7 +935,7 @@ final class SecondTelling {
     }
 
     private int forge(int what, int n, int k) {
-        need(what >= 0 && what < 7 && Math.abs(n) <= 100 && Math.abs(k) <= 100, 1);
+        need(what >= 0 && what < 7 && n >= -100 && n <= 100 && k >= -100 && k <= 100, 1);
         int number = (k % 8 + 8) % 8;
         Sown crop = isCrop(number) ? world.crops.get(number) : null;
         Object sheet = sheets[(k % 4 + 4) % 4];

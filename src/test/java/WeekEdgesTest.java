@@ -87,19 +87,11 @@ public final class WeekEdgesTest {
         }
     }
 
-    /** Warmths from week w on, in eighths; those below 0 are no numbers. */
+    /** Warmths of 3, but from week w on these eighths. */
     private static GardenBoxes warmed(int w, int... eighths) {
         GardenBoxes x = new GardenBoxes();
         Check.warmAll(x, 3);
-        x.sheet(0, 2, eighths.length);
-        for (int i = 0; i < eighths.length; i++) {
-            if (eighths[i] < 0) {
-                x.none(0, i);
-            } else {
-                x.cell(0, i, eighths[i]);
-            }
-        }
-        x.warm(0, w);
+        Check.warmFrom(x, w, eighths);
         return x;
     }
 
@@ -356,7 +348,8 @@ public final class WeekEdgesTest {
     private static void imageOfTheMost() {
         CHECK.sentence("P15", "is kept as an IMAGE");
         goneBack("the last of all", Gardens::brim, x -> {
-            Check.tell(x, "give c7;give c6;give c5;give c4;give c3;give c1;");
+            Check.tell(x, "give c7;give c6;give c5;give c4;give c3;give c0;");
+            x.hands(16);
             x.sheet(3, 2, 1);
             x.cell(3, 0, 99);
             x.warm(3, 29);

@@ -14,17 +14,8 @@ public final class WeeksTest {
 
     private static void heatByWarmths() {
         GardenBoxes x = new GardenBoxes();
-        int[] eighths = {-1, 12, -1, 21, -1, -1, -1, 40};
         int[] due = {1, 1, 2, 2, 2, 0, 5, 5};
-        x.sheet(0, 2, eighths.length);
-        for (int i = 0; i < eighths.length; i++) {
-            if (eighths[i] < 0) {
-                x.none(0, i);
-            } else {
-                x.cell(0, i, eighths[i]);
-            }
-        }
-        CHECK.done(x, "P12", x.warm(0, 0), eighths.length);
+        CHECK.done(x, "P12", Check.warmFrom(x, 0, -1, 12, -1, 21, -1, -1, -1, 40), 8);
         x.crop(0, 400, 1, Check.rest(1, 0, 1));
         x.sow(0, 0);
         int heat = 0;

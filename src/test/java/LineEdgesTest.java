@@ -1,3 +1,4 @@
+import java.util.List;
 import java.util.function.Supplier;
 
 /** Boundary cases of the tape and the lines: part 4, promises 9 to 11 and 26. */
@@ -23,6 +24,7 @@ public final class LineEdgesTest {
         andForm();
         notForm();
         valueForm();
+        whatCanStand();
         tooEarly();
         strangeBytes();
         strangeRows();
@@ -324,6 +326,54 @@ public final class LineEdgesTest {
         wrong("give c0 when give<1;", 13);
     }
 
+    /** Behind a text, of all tokens (and of what is none) these alone can stand. */
+    private static void onlyThese(String text, String... fitting) {
+        String[] all = {"give", "bar", "when", "and", "or", "not", "stock", "had", "week", "size", "c0", "7", "<", "=",
+            "(", ")", ";", "x", "?", "1234"};
+        for (String token : all) {
+            String longer = text + " " + token;
+            GardenBoxes x = Gardens.threeAndAHouse();
+            Check.tell(x, longer);
+            if (!List.of(fitting).contains(token)) {
+                CHECK.row("fault of '" + longer + "'", x::fault, 1, text.length() + 1);
+            } else if (token.equals(";")) {
+                CHECK.row("no fault of '" + longer + "'", x::fault, 0, -1);
+            } else {
+                CHECK.row("too early an end of '" + longer + "'", x::fault, 1, longer.length());
+            }
+        }
+    }
+
+    private static void whatCanStand() {
+        CHECK.sentence("4", "1: the first byte of the first TOKEN that can't stand there");
+        String[] not = {"not", "(", "stock", "had", "week", "size"};
+        onlyThese("", "give", "bar");
+        onlyThese("give c0;", "give", "bar");
+        onlyThese("give", "c0");
+        onlyThese("bar", "c0");
+        onlyThese("give c0", "when", ";");
+        onlyThese("bar c0", "when", ";");
+        String[] before = {"", " not", " (", " week<1 and", " week<1 or", " not not not not not", " (((((", " (not("};
+        for (String text : before) {
+            onlyThese("bar c0 when" + text, not);
+        }
+        onlyThese("give c0 when stock", "c0");
+        onlyThese("give c0 when had", "c0");
+        String[] values = {" week", " size", " stock c0", " had c0"};
+        for (String value : values) {
+            onlyThese("give c0 when" + value, "<", "=");
+            onlyThese("give c0 when" + value + " <", "7");
+            onlyThese("give c0 when" + value + " =", "7");
+            onlyThese("give c0 when" + value + "<1", "and", "or", ";");
+            onlyThese("give c0 when (" + value + "=1", "and", "or", ")");
+        }
+        onlyThese("give c0 when (week<1)", "and", "or", ";");
+        onlyThese("give c0 when not week<1", "and", "or", ";");
+        onlyThese("give c0 when ((week<1)", "and", "or", ")");
+        onlyThese("give c0 when not not not not not not");
+        onlyThese("give c0 when ((((((");
+    }
+
     private static void tooEarly() {
         CHECK.sentence("4", "1: the first byte of the first TOKEN that can't stand there (the text's length if it ends "
             + "too early");
@@ -352,6 +402,7 @@ public final class LineEdgesTest {
             wrong((char) one + "give c0;", 0);
             wrong("give c0" + (char) one + ";", 7);
             wrong("give c0;" + (char) one, 8);
+            wrong("give c0 when week<" + (char) one + ";", 18);
         }
     }
 
@@ -363,6 +414,8 @@ public final class LineEdgesTest {
             wrong(row + " c0;", 0);
             wrong("give c0 " + row + ";", 8);
             wrong("give c0 when " + row + "<1;", 13);
+            wrong("give c0 when week<" + row + ";", 18);
+            wrong("give c0 when week " + row + " 1;", 18);
         }
     }
 

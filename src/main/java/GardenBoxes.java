@@ -29,7 +29,8 @@ public final class GardenBoxes {
     private static final int WARMTH_MOST = 800;
     private static final int EIGHTHS = 8;
     private static final int NEVER_HAD = 99;
-    private static final int NO_NUMBER = Integer.MIN_VALUE;
+    /** Below all numbers that a sheet can hold. */
+    private static final int NO_NUMBER = -CELL_MOST - 1;
 
     private static final int NO_FAULT = 0;
     private static final int FAULT_IN_FORM = 1;
@@ -425,8 +426,7 @@ public final class GardenBoxes {
         if (of == null || !isWithin(act, GROW, TELL)) {
             return refuse(BAD_NUMBER);
         }
-        performer.traceSize = 0;
-        return done(performer.perform(of, of.kind, act, x, 0));
+        return done(performer.start(of, act, x));
     }
 
     public int trace(int i) {
@@ -1473,8 +1473,13 @@ public final class GardenBoxes {
         final int[] bodies = new int[TRACE_MOST];
         int traceSize = 0;
 
+        int start(Crop crop, int act, int x) {
+            traceSize = 0;
+            return perform(crop, crop.kind, act, x, 0);
+        }
+
         /** Runs the body of an act that the kind, or the next one above it, has. */
-        int perform(Crop crop, int kind, int act, int x, int depth) {
+        private int perform(Crop crop, int kind, int act, int x, int depth) {
             int at = kindWithBody(kind, act);
             if (at == NONE || depth > ACT_DEPTH_MOST) {
                 return 0;

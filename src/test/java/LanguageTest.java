@@ -3,7 +3,11 @@ import java.lang.reflect.Field;
 import java.lang.reflect.Modifier;
 import java.nio.file.Files;
 import java.nio.file.Path;
+import java.util.Arrays;
+import java.util.Map;
 import java.util.Set;
+import java.util.TreeMap;
+import java.util.TreeSet;
 import java.util.regex.Matcher;
 import java.util.regex.Pattern;
 
@@ -11,7 +15,12 @@ import java.util.regex.Pattern;
 public final class LanguageTest {
     private static final Check CHECK = new Check("LanguageTest");
     private static final Set<String> LIBRARY = Set.of("Math.floorMod", "Math.max", "Math.min", "Math.abs",
-        "System.arraycopy", "Arrays.copyOf", "Arrays.copyOfRange", "Arrays.fill", "Integer.MIN_VALUE");
+        "System.arraycopy", "Arrays.copyOf", "Arrays.copyOfRange", "Arrays.fill");
+
+    private static final Pattern HEAD =
+        Pattern.compile("^( {4}| {8})(?! )[\\w\\[\\] ]*?(\\w+)\\(([^()]*)\\) \\{$");
+    private static final Pattern OWNER = Pattern.compile("\\bclass (\\w+)");
+    private static final Pattern CALL = Pattern.compile("(?<![.\\w])(?<!new )(\\w+)\\(");
 
     public static void main(String[] args) throws IOException {
         String source = Files.readString(Path.of("src/main/java/GardenBoxes.java"));
@@ -31,6 +40,7 @@ public final class LanguageTest {
         none(code, "\\.(equals|hashCode|toString|getClass)\\(");
         libraryAlone(code);
         shortMethods(code);
+        recursionIsPrivate(code);
         fewFields();
         CHECK.finish();
     }
@@ -50,19 +60,65 @@ public final class LanguageTest {
 
     private static void shortMethods(String code) {
         String[] lines = code.split("\n");
-        Pattern head = Pattern.compile("^( {4}| {8})(?! )[\\w\\[\\] ]+\\(([^()]*)\\) \\{$");
         for (int i = 0; i < lines.length; i++) {
-            Matcher method = head.matcher(lines[i]);
+            Matcher method = HEAD.matcher(lines[i]);
             if (!method.matches()) {
                 continue;
             }
-            int end = i;
-            while (end < lines.length && !lines[end].equals(method.group(1) + "}")) {
-                end++;
-            }
-            CHECK.same("lines of " + lines[i].trim(), end - i < 60 ? 1 : 0, 1);
-            CHECK.same("parameters of " + lines[i].trim(), method.group(2).split(",").length <= 7 ? 1 : 0, 1);
+            CHECK.same("lines of " + lines[i].trim(), endOf(lines, i, method.group(1)) - i < 60 ? 1 : 0, 1);
+            CHECK.same("parameters of " + lines[i].trim(), method.group(3).split(",").length <= 7 ? 1 : 0, 1);
         }
+    }
+
+    private static int endOf(String[] lines, int from, String indent) {
+        int end = from;
+        while (end < lines.length && !lines[end].equals(indent + "}")) {
+            end++;
+        }
+        return end;
+    }
+
+    /** Rule 8; a method that comes back to itself by others is seen too. A call on an object is another's method. */
+    private static void recursionIsPrivate(String code) {
+        String[] lines = code.split("\n");
+        Map<String, String> heads = new TreeMap<>();
+        Map<String, Set<String>> calls = new TreeMap<>();
+        String owner = "";
+        for (int i = 0; i < lines.length; i++) {
+            Matcher inside = OWNER.matcher(lines[i]);
+            owner = inside.find() ? inside.group(1) : owner;
+            Matcher method = HEAD.matcher(lines[i]);
+            if (!method.matches()) {
+                continue;
+            }
+            String body = String.join("\n", Arrays.copyOfRange(lines, i + 1, endOf(lines, i, method.group(1))));
+            Set<String> called = new TreeSet<>();
+            Matcher call = CALL.matcher(body);
+            while (call.find()) {
+                called.add(owner + "." + call.group(1));
+            }
+            heads.put(owner + "." + method.group(2), lines[i].trim());
+            calls.put(owner + "." + method.group(2), called);
+        }
+        int recursions = 0;
+        for (String name : heads.keySet()) {
+            if (reached(calls, name).contains(name)) {
+                recursions++;
+                CHECK.same("private: " + heads.get(name), heads.get(name).startsWith("private ") ? 1 : 0, 1);
+            }
+        }
+        CHECK.same("or, and, not and the bodies call themselves", recursions, 4);
+    }
+
+    private static Set<String> reached(Map<String, Set<String>> calls, String from) {
+        Set<String> all = new TreeSet<>(calls.get(from));
+        for (int size = -1; size < all.size();) {
+            size = all.size();
+            for (String name : new TreeSet<>(all)) {
+                all.addAll(calls.getOrDefault(name, Set.of()));
+            }
+        }
+        return all;
     }
 
     private static void fewFields() {
